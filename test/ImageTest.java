@@ -88,8 +88,8 @@ public final class ImageTest {
         x.text(0, 0);
         Check.put(x, "wet 8;");
         x.image(2);
-        Check.put(x, "wet");
         x.end(0);
+        Check.put(x, "size 3 3;");
         x.text(0, 0);
         Check.due("no FAULT", 0, x.fault(0));
         Check.due("again", true, x.again(2));

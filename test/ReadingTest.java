@@ -11,6 +11,7 @@ public final class ReadingTest {
         firstWay();
         rows();
         empty();
+        severalTexts();
         noSuch();
         Check.close();
     }
@@ -107,6 +108,33 @@ public final class ReadingTest {
         Check.dueRow("rows", 0, k -> x.row(0, 0, k), -2, 0, 0, 0, 0, -2);
     }
 
+    /** What was found for some texts is not told of others. */
+    private static void severalTexts() {
+        ClayPrints x = Check.night("foot 0 1 1 0;", "sign 0 0 0 0 3;");
+        x.image(0);
+        Check.put(x, "foot 0 1 2 0;");
+        x.text(0, -1);
+        Check.put(x, "sign 0 0 0 0 4;sign 0 0 0 0 4;");
+        x.text(1, -1);
+        Check.due("night 0, reading 0", 1, x.makers(0, 0, 0));
+        Check.due("night 0, reading 1", 0, x.makers(0, 1, 0));
+        Check.due("night 1, reading 1", 1, x.makers(1, 1, 0));
+        Check.due("night 1, reading 0", 0, x.makers(1, 0, 0));
+        Check.due("walks of reading 0", 1, x.walks(1, 0, 0));
+        Check.due("walks of reading 1", 2, x.walks(1, 1, 0));
+        Check.put(x, "wet 1;foot 0 1 2 0;");
+        x.text(0, 1);
+        Check.due("another night 1", 0, x.makers(1, 1, 0));
+        Check.put(x, "sign 0 0 0 0 3;sign 0 0 0 0 3;sign 0 0 0 0 3;");
+        x.text(1, 1);
+        Check.due("another reading 1", 1, x.makers(1, 1, 0));
+        Check.due("walks of another reading 1", 3, x.walks(1, 1, 0));
+        x.text(0, 0);
+        Check.due("an empty night 0", 0, x.makers(0, 0, 0));
+        x.again(0);
+        Check.due("night 0 as the image has it", 1, x.makers(0, 0, 0));
+    }
+
     private static void noSuch() {
         ClayPrints x = Check.night("foot 0 1 1 0;", "sign 0 0 0 0 3;");
         for (int night = -1; night <= 1; night++) {
@@ -121,14 +149,5 @@ public final class ReadingTest {
                 Check.due("row" + call, there ? 1 : -2, x.row(night, reading, 1));
             }
         }
-        Check.due("another night, another answer", 0, twoNights().makers(1, 0, 0));
-    }
-
-    private static ClayPrints twoNights() {
-        ClayPrints x = Check.night("foot 0 1 1 0;", "sign 0 0 0 0 3;");
-        Check.put(x, "foot 0 1 2 0;");
-        x.text(0, -1);
-        Check.due("by night 0", 1, x.makers(0, 0, 0));
-        return x;
     }
 }

@@ -67,6 +67,8 @@ public final class TaxTest {
         Check.due("leaves", Check.bits(0), x.alone(0, -1));
         ClayPrints y = Check.night("size 4 4;foot 0 1 1 0;foot 1 1 1 0;walk 0 5 0 1 0 3 3 2 1;walk 1 6 2 1;");
         Check.due("nobody leaves", 0, y.alone(0, -1));
+        Check.due("asked first of all", Check.bits(0), Check.night("size 4 4;foot 0 1 1 0;foot 1 1 1 0;"
+            + "walk 0 5 0 1 0 3 3 2 1;walk 1 5 2 1;").alone(0, -1));
     }
 
     private static void pays() {
@@ -79,6 +81,8 @@ public final class TaxTest {
         Check.dueRow("the least of several", -1, law -> z.pays(0, law), 0, 0, 0, 0, -1);
         ClayPrints w = Check.night("wet 0;foot 0 1 1 0;foot 1 2 1 0;walk 0 0 0 1;walk 1 6 0 1;");
         Check.dueRow("by yard", -1, law -> w.pays(0, law), 1, 0, 1, 0, -1);
+        Check.due("asked first of all", 1, Check.night("foot 0 1 1 0;foot 1 2 1 0;walk 1 6 0 1;").pays(0, 0));
+        Check.due("yield asked first of all", 1, Check.night("wet 0;foot 1 2 1 0;walk 0 6 0 1;").pays(0, -1));
         Check.due("no prints", 0, Check.night("foot 0 1 1 0;").pays(0, 2));
     }
 

@@ -9,6 +9,7 @@ public final class ToldTest {
         defaults();
         person();
         strikes();
+        nothingStays();
         where();
         whereCarried();
         near();
@@ -58,6 +59,21 @@ public final class ToldTest {
         Check.due("carrying one more strikes nothing", 0, x.person(0, 2, 5));
         Check.due("the carried one makes no STEPS", 0, Check.night("foot 0 1 1 0;foot 0 1 1 0;walk 1 0 0 1;carry 0 1;")
             .person(0, 1, 9));
+    }
+
+    private static void nothingStays() {
+        ClayPrints x = Check.night(NIGHT, "sign 1 2 1 3 4;sign 1 2 1 3 4;");
+        Check.put(x, "foot 5 1 1 0;foot 0 1 1 0;foot 0 1 1 0;foot 0 1 1 0;");
+        Check.due("instead", 0, x.text(0, 0));
+        Check.dueRow("night", 0, what -> x.night(0, what), 6, 6, 2, 4, 0, 0);
+        Check.dueRow("person 0", 0, what -> x.person(0, 0, what), 5, 1, 1, 0, 0, -1, -1, -1, 0, 0);
+        Check.dueRow("person 1", 4, what -> x.person(0, 1, what), 0, -1, -1, -1, 0, 0);
+        Check.dueRow("person 2", 4, what -> x.person(0, 2, what), 0, -1, -1, -1, 0, 0);
+        Check.dueRow("person 3", 4, what -> x.person(0, 3, what), 0, -1, -1, -1, 0, 0);
+        Check.put(x, "sign 9 0 0 0 1;");
+        Check.due("instead", 0, x.text(1, 0));
+        Check.due("signs", 1, x.sign(0, -1, 0));
+        Check.dueRow("sign", 0, what -> x.sign(0, 0, what), 9, 0, 0, 0, 1);
     }
 
     private static void where() {

@@ -169,6 +169,9 @@ public final class WayTest {
         ClayPrints x = Check.night("foot 0 1 1 0;foot 0 2 1 0;errand 0 0 1;errand 1 0 1;");
         Check.dueRow("no tour", -1, what -> x.tour(0, what), -1, -1, -1, -1);
         Check.dueRow("no tour", 10, what -> x.tour(0, what), -1, -1, -1);
+        Check.put(x, "foot 0 1 1 0;errand 0 0 1;errand 0 2 3;");
+        x.text(0, 0);
+        tour(x, 4, 2, 0, 1);
     }
 
     private static void tourIsOfItsNight() {

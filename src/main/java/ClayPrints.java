@@ -716,11 +716,8 @@ public final class ClayPrints {
         private int steps;
         private final int[] sides = new int[MOST_STEPS];
 
+        /** What a foot's line tells stays: without such a line of the same text nobody asks for it. */
         private void clear() {
-            sole = 0;
-            stride = 1;
-            weight = 1;
-            limp = 0;
             manner = 0;
             carrier = NONE;
             stay();
@@ -1751,7 +1748,6 @@ public final class ClayPrints {
         private final int[] best = new int[MOST_ERRANDS];
 
         private Night night;
-        private boolean blocked;
         private int done;
         private final int[] order = new int[MOST_ERRANDS];
         private final int[][] grounds = new int[MOST_ERRANDS + 1][MOST_CELLS];
@@ -1759,7 +1755,6 @@ public final class ClayPrints {
 
         private void begin(Night n, int[] ground) {
             night = n;
-            blocked = false;
             done = 0;
             prints = NONE;
             steps = 0;
@@ -1769,10 +1764,10 @@ public final class ClayPrints {
         /**
          * Finds prints (NONE: no tour), steps and the best order, from depth 0 on; the depth is at most the
          * number of errands. Orders come by rows, so only a better one counts. What can't be gone can't be
-         * gone on any ground, so the first order tells it.
+         * gone on any ground, so then no order comes to its end.
          */
         private void extend(int depth, int made, int walked) {
-            if (blocked || prints != NONE && made >= prints) {
+            if (prints != NONE && made >= prints) {
                 return;
             }
             if (depth >= night.errands || depth >= MOST_ERRANDS) {
@@ -1785,11 +1780,10 @@ public final class ClayPrints {
                 if ((done >> e & 1) == 0) {
                     int one = get(night.errandOne, e);
                     leg.seek(night, groundAt(depth), one, get(night.errandFrom, e), get(night.errandTo, e));
-                    leg.tread(groundAt(depth + 1));
                     if (leg.prints == NONE) {
-                        blocked = true;
                         return;
                     }
+                    leg.tread(groundAt(depth + 1));
                     done |= 1 << e;
                     put(order, depth, e);
                     extend(depth + 1, made + leg.prints, walked + leg.steps);
