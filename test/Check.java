@@ -27,6 +27,19 @@ final class Check {
         }
     }
 
+    /** One answer at several numbers. */
+    static void dueAt(String call, long want, IntToLongFunction got, int... at) {
+        for (int i : at) {
+            due(call + " (" + i + ")", want, got.applyAsLong(i));
+        }
+    }
+
+    /** What is refused: the numbers next to those that are in, and the farthest ones, also by tens that wrap around. */
+    static void dueOut(String call, long want, IntToLongFunction got, int... next) {
+        dueAt(call, want, got, next);
+        dueAt(call, want, got, Integer.MIN_VALUE, Integer.MIN_VALUE + 9, Integer.MIN_VALUE + 10, Integer.MAX_VALUE);
+    }
+
     static void put(ClayPrints x, String text) {
         byte[] bytes = new byte[(text.length() + 19) / 20 * 20];
         for (int i = 0; i < text.length(); i++) {
@@ -36,6 +49,12 @@ final class Check {
             x.feed(word(bytes, i), word(bytes, i + 4), word(bytes, i + 8), word(bytes, i + 12), word(bytes, i + 16));
         }
         x.end(text.length());
+    }
+
+    /** How many bytes the tape has; what it has stays. */
+    static void dueTape(String call, int want, ClayPrints x) {
+        due(call + ": no more bytes", -1, x.end(want + 1));
+        due(call + ": bytes", want, x.end(want));
     }
 
     private static int word(byte[] bytes, int i) {
