@@ -40,6 +40,7 @@ public final class ClayEdgesTest {
         gaitOfNoneAndAll();
         gaitWhat();
         trapsOfSomeCells();
+        trapsInTheFirstAndTheLastCell();
         trapsOfNobody();
         trapsFirstByRows();
         trapsRange();
@@ -342,6 +343,18 @@ public final class ClayEdgesTest {
         Check.dueRow("that lie at DAWN", 0, what -> y.traps(0, 1, what), 1, 15);
         ClayPrints z = Check.night(ONE + ONE + "foot 1 1 1 0;walk 0 14 0 1;walk 1 14 4 1;walk 2 20 0 1;");
         Check.dueRow("who USE one", 0, what -> z.traps(0, 1, what), 2, 14);
+    }
+
+    private static void trapsInTheFirstAndTheLastCell() {
+        ClayPrints x = Check.night("size 8 8;" + ONE + ONE + "walk 0 0 0 0;walk 1 63 0 1;");
+        Check.dueRow("1 CELL", 0, what -> x.traps(0, 1, what), 1, 0);
+        Check.dueRow("2 CELLS", 0, what -> x.traps(0, 2, what), 2, 0, 63);
+        Check.dueRow("3 CELLS", 0, what -> x.traps(0, 3, what), 2, 0, 1, 63);
+        ClayPrints y = Check.night("size 8 8;" + ONE + "walk 0 63 0 1;");
+        Check.dueRow("1 CELL", 0, what -> y.traps(0, 1, what), 1, 63);
+        Check.dueRow("2 CELLS", 0, what -> y.traps(0, 2, what), 1, 0, 63);
+        ClayPrints z = Check.night("size 2 2;" + ONE + "walk 0 3 0 1;");
+        Check.dueRow("the first row with the last CELL", 0, what -> z.traps(0, 3, what), 1, 0, 1, 3);
     }
 
     private static void trapsOfNobody() {

@@ -28,6 +28,7 @@ public final class ReadingEdgesTest {
         nextOfTheFirstWay();
         walksWhat();
         rowLengths();
+        rowsOfUnlikeLengths();
         rowsOfNoneAndOne();
         rowRange();
         rowsLeaveWalks();
@@ -299,6 +300,20 @@ public final class ReadingEdgesTest {
             int[] w = want[count - 1];
             Check.dueRow("of " + count, 1, k -> x.row(0, 0, k), w[0], w[1], w[2], w[3]);
         }
+    }
+
+    /** If none has more than k SIGNS. */
+    private static void rowsOfUnlikeLengths() {
+        String lone = "sign 40 5 0 0 1;";
+        ClayPrints x = Check.night(LIGHT, line(4) + lone + lone);
+        Check.dueRow("four and two alone", 1, k -> x.row(0, 0, k), 6, 4, 4, 3);
+        ClayPrints y = Check.night(LIGHT, lone + line(5) + lone);
+        Check.due("five and two alone: one row would do", 3, y.walks(0, 0, 0));
+        Check.dueRow("five and two alone", 1, k -> y.row(0, 0, k), 7, 5, 4, 4);
+        ClayPrints z = Check.night(LIGHT, "sign 3 0 1 1 1;sign 2 0 0 1 1;sign 1 0 1 1 1;sign 0 0 0 1 1;" + lone.repeat(4));
+        Check.dueRow("told from behind", 1, k -> z.row(0, 0, k), 8, 6, 6, 5);
+        ClayPrints w = Check.night(LIGHT, "sign 1 0 1 1 1;sign 0 0 0 1 1;sign 3 0 1 1 1;sign 2 0 0 1 1;" + lone.repeat(4));
+        Check.dueRow("the middle joined last", 1, k -> w.row(0, 0, k), 8, 6, 6, 5);
     }
 
     private static void rowsOfNoneAndOne() {

@@ -170,8 +170,8 @@ public final class TaxEdgesTest {
         fair(less, 0, 7, 1);
         Check.due("less by one", 1, less.alone(0, -1));
         ClayPrints half = Check.night(text + "walk 1 5 2 1;walk 2 5 10 1;");
-        fair(half, 0, 13, 2);
         Check.due("less by a half", 1, half.alone(0, -1));
+        fair(half, 0, 13, 2);
         ClayPrints same = Check.night(text + "walk 1 5 2 1;walk 2 5 10 1;walk 3 2 10 0;");
         fair(same, 0, 6, 1);
         Check.due("the same", 0, same.alone(0, -1));

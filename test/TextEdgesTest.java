@@ -10,6 +10,8 @@ public final class TextEdgesTest {
     public static void main(String[] args) {
         furtherOnes();
         inThePlaceOfOne();
+        nothingOfEarlierTexts();
+        askedOfTheLatestText();
         noneSuch();
         asManyAsMayBe();
         noSuchSort();
@@ -102,6 +104,61 @@ public final class TextEdgesTest {
         Check.due("reading 0", 3, x.sign(0, -1, 0));
         Check.due("reading 1", 0, x.sign(1, -1, 0));
         Check.dueRow("no more of them", 0, x::count, 2, 2);
+    }
+
+    /** A text tells by itself: no line of an earlier one, sound or with a FAULT, tells anything in it. */
+    private static void nothingOfEarlierTexts() {
+        ClayPrints x = new ClayPrints();
+        String large = "size 8 8;wet 9;" + SIX + "walk 0 63 9 0 0 0;walk 1 60 9 0;hands 0;rolled 1;carry 0 2;rain 0;rain 99;errand 5 63 62;";
+        tell(x, large, 0, -1, 0);
+        tell(x, large + "hands 0;wet 10;", 0, 0, -1);
+        tell(x, large + "?", 0, 0, -1);
+        tell(x, "size 2 2;foot 1 1 1 0;foot 2 1 2 0;foot 3 1 3 0;", 0, 0, 0);
+        Check.dueRow("night", 0, what -> x.night(0, what), 2, 2, 2, 3, 0, 0);
+        Check.dueRow("person 0", 0, what -> x.person(0, 0, what), 1, 1, 1, 0, 0, -1, -1, -1, 0, 0);
+        Check.dueRow("person 1", 0, what -> x.person(0, 1, what), 2, 1, 2, 0, 0, -1, -1, -1, 0, 0);
+        Check.dueRow("person 2", 0, what -> x.person(0, 2, what), 3, 1, 3, 0, 0, -1, -1, -1, 0, 0);
+        tell(x, "size 2 2;foot 1 1 1 0;foot 2 1 2 0;walk 0 3 0 3;", 0, 0, 0);
+        Check.due("prints", 2, x.print(0, 99, -1, 0));
+        tell(x, "hands 0;", 0, 0, -1);
+        Check.dueRow("nobody of an earlier one is there", 0, x::fault, 4, 8);
+        tell(x, ONE.repeat(5) + "errand 0 0 1;".repeat(4), 0, 0, 0);
+        tell(x, ONE.repeat(5) + "errand 0 0 1;".repeat(5), 0, 0, 0);
+        Check.dueRow("counted by itself", 3, what -> x.night(0, what), 5, 5, 0);
+        tell(x, SIGN.repeat(10), 1, -1, 0);
+        tell(x, SIGN.repeat(10) + "?", 1, 0, -1);
+        tell(x, SIGN.repeat(10), 1, 0, 0);
+        tell(x, SIGN, 1, 0, 0);
+        Check.due("signs", 1, x.sign(0, -1, 0));
+    }
+
+    /** What is asked is told of the texts as they are now, whatever was asked ahead. */
+    private static void askedOfTheLatestText() {
+        ClayPrints x = Check.night("wet 0;foot 0 1 1 0;walk 0 0 0 1;errand 0 0 2;", "sign 0 0 0 3 1;sign 1 0 1 1 1;");
+        asked(x, 1, 1, 2, 2);
+        tell(x, "wet 0;foot 0 1 1 0;walk 0 0 0 1;errand 0 0 4;", 0, 0, 0);
+        asked(x, 3, 1, 2, 2);
+        tell(x, "sign 0 0 0 3 1;" + SIGN, 1, 0, 0);
+        asked(x, 3, 2, 1, 2);
+        tell(x, "wet 0;foot 0 1 1 0;foot 0 1 1 0;foot 1 1 1 0;", 0, -1, 1);
+        tell(x, SIGN, 1, -1, 1);
+        asked(x, 3, 2, 1, 2);
+        Check.due("WALKS of another reading", 1, x.walks(0, 1, 0));
+        Check.due("ROW of another reading", 1, x.row(0, 1, 1));
+        Check.due("TOUR of another night", 0, x.tour(1, 0));
+        Check.due("MAKERS by another night", 3, x.makers(1, 0, 0));
+        asked(x, 3, 2, 1, 2);
+        x.image(0);
+        tell(x, "", 0, 0, 0);
+        asked(x, 0, 2, 1, 2);
+        x.again(0);
+        asked(x, 3, 2, 1, 2);
+    }
+
+    private static void asked(ClayPrints x, int tour, int walks, int ways, int row) {
+        Check.due("TOUR", tour, x.tour(0, 0));
+        Check.dueRow("WALKS", 0, what -> x.walks(0, 0, what), walks, ways);
+        Check.due("ROW", row, x.row(0, 0, 1));
     }
 
     /** -2: there is none such. */

@@ -8,6 +8,7 @@ public final class WayEdgesTest {
         fitsByAll();
         topmostAtDawn();
         fewestStepsOfSuch();
+        throughTheFirstCellAgain();
         firstByRowsOfSides();
         fortySteps();
         noMoreThanFortySteps();
@@ -102,6 +103,13 @@ public final class WayEdgesTest {
         way(z, 0, 0, 12, 2, 1, 2, 2, 3);
         ClayPrints w = Check.night("size 6 6;" + ONE + "walk 0 0 0 1 2 2 3;rain 3;");
         way(w, 0, 0, 12, 3, 2, 2);
+    }
+
+    /** The first FOOT has the SIDE of the first STEP, so a round may make fewer new prints. */
+    private static void throughTheFirstCellAgain() {
+        ClayPrints x = Check.night("size 4 4;" + ONE + "walk 0 5 0 1 0 3 3 2 1 2;");
+        way(x, 0, 5, 9, 0, 1, 0, 3, 3, 2, 1, 2);
+        way(x, 0, 5, 13, 1, 1, 0, 3, 3, 2, 1, 2, 2);
     }
 
     /** Of such the first by rows of sides. */
