@@ -14,7 +14,6 @@ public final class ClayTest {
         traps();
         dawn();
         thieves();
-        noSuch();
         Check.close();
     }
 
@@ -172,21 +171,5 @@ public final class ClayTest {
         Check.due("f -1", -1, x.thieves(0, 0, -1, 1));
         Check.due("t 100", -1, x.thieves(0, 0, 0, 100));
         Check.due("night 1", -1, x.thieves(1, 0, 0, 1));
-    }
-
-    private static void noSuch() {
-        ClayPrints x = Check.night("foot 0 1 1 0;walk 0 0 0 1;");
-        Check.due("print, night 1", -2, x.print(1, 0, -1, 0));
-        Check.due("print, minute -1", -2, x.print(0, -1, -1, 0));
-        Check.due("print, minute 100", -2, x.print(0, 100, -1, 0));
-        Check.due("print -2", -2, x.print(0, 99, -2, 0));
-        Check.due("cell, night 1", -2, x.cell(1, 0, 0, 0));
-        Check.due("cell, minute -1", -2, x.cell(0, -1, 0, 0));
-        Check.due("cell, minute 100", -2, x.cell(0, 100, 0, 0));
-        Check.due("cell 36", -2, x.cell(0, 0, 36, 0));
-        Check.due("cell -1", -2, x.cell(0, 0, -1, 0));
-        Check.due("gait, night 1", -2, x.gait(1, 0, 0));
-        Check.due("gait, person 1", -2, x.gait(0, 1, 0));
-        Check.due("gait, person -1", -2, x.gait(0, -1, 0));
     }
 }

@@ -12,7 +12,6 @@ public final class ReadingTest {
         rows();
         empty();
         severalTexts();
-        noSuch();
         Check.close();
     }
 
@@ -133,21 +132,5 @@ public final class ReadingTest {
         Check.due("an empty night 0", 0, x.makers(0, 0, 0));
         x.again(0);
         Check.due("night 0 as the image has it", 1, x.makers(0, 0, 0));
-    }
-
-    private static void noSuch() {
-        ClayPrints x = Check.night("foot 0 1 1 0;", "sign 0 0 0 0 3;");
-        for (int night = -1; night <= 1; night++) {
-            for (int reading = -1; reading <= 1; reading++) {
-                boolean there = night == 0 && reading == 0;
-                String call = " " + night + " " + reading;
-                Check.due("makers" + call, there ? 1 : -2, x.makers(night, reading, 0));
-                Check.due("forged" + call, there ? 0 : -2, x.makers(night, reading, -1));
-                Check.due("follows" + call, there ? 0 : -2, x.follows(night, reading, 0));
-                Check.due("couples" + call, there ? 0 : -2, x.follows(night, reading, -1));
-                Check.due("walks" + call, there ? 1 : -2, x.walks(night, reading, 0));
-                Check.due("row" + call, there ? 1 : -2, x.row(night, reading, 1));
-            }
-        }
     }
 }

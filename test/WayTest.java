@@ -5,10 +5,8 @@ public final class WayTest {
         followed();
         fewestPrintsFirst();
         backToTheStart();
-        fortySteps();
         strides();
         onFeet();
-        noSuch();
         tour();
         tourOrder();
         noTour();
@@ -67,41 +65,6 @@ public final class WayTest {
         way(x, 0, 5, 9, 0, 1, 0, 3, 3, 2, 1, 2);
     }
 
-    private static void fortySteps() {
-        way(snaked(40), 0, 0, cellAfter(snake(40)), 0, snake(40));
-        int to = cellAfter(snake(42));
-        ClayPrints y = snaked(42);
-        Check.due("no 42 steps, new prints", 1, y.way(0, 0, 0, to, 0) > 0 ? 1 : 0);
-        Check.due("no 42 steps", 1, y.way(0, 0, 0, to, 1) <= 40 ? 1 : 0);
-    }
-
-    /** The prints of a snake, by one up to step 20 and by another one from there on. */
-    private static ClayPrints snaked(int steps) {
-        StringBuilder text = new StringBuilder("size 8 8;foot 0 1 1 0;foot 0 1 1 0;walk 0 0 0");
-        int[] sides = snake(steps);
-        for (int i = 0; i < steps; i++) {
-            text.append(i == 20 ? ";walk 1 " + cellAfter(snake(20)) + " 20 " : " ").append(sides[i]);
-        }
-        return Check.night(text.append(";").toString());
-    }
-
-    /** East along a row, south, west along the next one .. */
-    private static int[] snake(int steps) {
-        int[] sides = new int[steps];
-        for (int i = 0; i < steps; i++) {
-            sides[i] = i % 8 == 7 ? 2 : i / 8 % 2 == 0 ? 1 : 3;
-        }
-        return sides;
-    }
-
-    private static int cellAfter(int[] sides) {
-        int cell = 0;
-        for (int side : sides) {
-            cell += side == 1 ? 1 : side == 2 ? 8 : -1;
-        }
-        return cell;
-    }
-
     private static void strides() {
         ClayPrints x = Check.night("size 5 3;foot 0 2 1 0;foot 0 3 1 0;foot 0 2 1 0;");
         way(x, 0, 0, 1, -1);
@@ -117,20 +80,6 @@ public final class WayTest {
         way(x, 1, 5, 7, 0, 1, 1);
         way(x, 2, 5, 7, 0, 1, 1);
         way(x, 3, 5, 7, 0, 1, 1);
-    }
-
-    private static void noSuch() {
-        ClayPrints x = Check.night("foot 0 1 1 0;");
-        Check.due("night 1", -1, x.way(1, 0, 0, 0, 0));
-        Check.due("night -1", -1, x.way(-1, 0, 0, 0, 0));
-        Check.due("person 1", -1, x.way(0, 1, 0, 0, 0));
-        Check.due("person -1", -1, x.way(0, -1, 0, 0, 0));
-        Check.due("from 36", -1, x.way(0, 0, 36, 0, 0));
-        Check.due("from -1", -1, x.way(0, 0, -1, 0, 0));
-        Check.due("to 36", -1, x.way(0, 0, 0, 36, 0));
-        Check.due("to -1", -1, x.way(0, 0, 0, -1, 0));
-        Check.due("what MIN", -1, x.way(0, 0, 0, 1, Integer.MIN_VALUE));
-        Check.due("what MAX", -1, x.way(0, 0, 0, 1, Integer.MAX_VALUE));
     }
 
     private static void tour(ClayPrints x, int prints, int steps, int... order) {

@@ -592,7 +592,9 @@ public final class ClayPrints {
     }
 
     private static void copy(int[] from, int[] to) {
-        System.arraycopy(from, 0, to, 0, Math.min(from.length, to.length));
+        if (from != null && to != null) {
+            System.arraycopy(from, 0, to, 0, Math.min(from.length, to.length));
+        }
     }
 
     private static boolean isMinute(int minute) {
@@ -1719,9 +1721,6 @@ public final class ClayPrints {
 
         /** Makes another ground the one that lies when the way found has been gone. */
         private void tread(int[] after) {
-            if (ground == null || after == null) {
-                return;
-            }
             copy(ground, after);
             int cell = start;
             for (int i = 0; i < steps; i++) {
@@ -1758,7 +1757,7 @@ public final class ClayPrints {
             done = 0;
             prints = NONE;
             steps = 0;
-            copy(ground, grounds[0]);
+            copy(ground, groundAt(0));
         }
 
         /**
