@@ -12,6 +12,7 @@ public final class TaxEdgesTest {
         fairOfNothing();
         fairByHowManyUse();
         fairInLeastTerms();
+        fairByEachCommonDivisor();
         fairOfPrintsThatLie();
         aloneOfOneWhoDoesNotWalk();
         aloneWithWhomHeCarries();
@@ -130,6 +131,32 @@ public final class TaxEdgesTest {
         ClayPrints mixed = Check.night(ONE.repeat(3) + "walk 0 0 0 1 1;walk 1 0 5 1 1;walk 2 0 7 1 2;");
         fair(mixed, 0, 7, 6);
         fair(mixed, 2, 5, 3);
+    }
+
+    /** A fraction in least terms: of 60ths together, by each number that can divide both. */
+    private static void fairByEachCommonDivisor() {
+        common(1, 1, 3, 37, 60);
+        common(1, 4, 0, 11, 30);
+        common(1, 3, 0, 9, 20);
+        common(2, 2, 0, 8, 15);
+        common(2, 3, 0, 5, 12);
+        common(3, 1, 0, 7, 10);
+        common(5, 0, 0, 7, 6);
+        common(4, 0, 0, 6, 5);
+        common(2, 1, 0, 3, 4);
+        common(2, 0, 0, 4, 3);
+        common(1, 0, 0, 3, 2);
+        common(0, 0, 0, 2, 1);
+    }
+
+    /** So many others step in one's first print, in his first two, in all three (without these he makes two). */
+    private static void common(int one, int two, int three, int over, int under) {
+        StringBuilder text = new StringBuilder("size 3 2;" + ONE + "walk 0 0 0 1" + (three > 0 ? " 1;" : ";"));
+        for (int p = 1; p <= one + two + three; p++) {
+            text.append(p <= one ? "foot 0 3 1 0;" : ONE);
+            text.append("walk " + p + " 0 " + 9 * p + " 1" + (p > one + two ? " 1;" : ";"));
+        }
+        fair(Check.night(text.toString()), 0, over, under);
     }
 
     /** Of each print that lies at DAWN. */
