@@ -1,4 +1,5 @@
 import java.io.IOException;
+import java.lang.reflect.Array;
 import java.lang.reflect.Constructor;
 import java.lang.reflect.Field;
 import java.lang.reflect.Method;
@@ -6,6 +7,7 @@ import java.lang.reflect.Modifier;
 import java.nio.charset.StandardCharsets;
 import java.nio.file.Files;
 import java.nio.file.Path;
+import java.util.IdentityHashMap;
 import java.util.TreeSet;
 import java.util.regex.Matcher;
 import java.util.regex.Pattern;
@@ -26,10 +28,12 @@ public final class FaceTest {
         "->", "::", "Exact\\(", "\\.hashCode", "\\.toString", "System\\.(?!arraycopy)", "protected", "volatile", "float",
         "double", "Thread", "Random", "import (?!java\\.util\\.Arrays;)", "while \\(true", "for \\(;;"};
 
-    public static void main(String[] args) throws IOException {
+    public static void main(String[] args) throws IOException, IllegalAccessException {
         face();
         classesInside();
         words();
+        room();
+        madeAheadOfCalls();
         Check.close();
     }
 
@@ -92,9 +96,59 @@ public final class FaceTest {
         }
     }
 
+    /** All objects of one run live in one room, so an object must be small. */
+    private static void room() throws IllegalAccessException {
+        int[] counts = new int[2];
+        count(new ClayPrints(), new IdentityHashMap<>(), counts);
+        Check.due("objects and arrays of a new object, " + counts[0], true, counts[0] < 600);
+        Check.due("fields and elements of a new object, " + counts[1], true, counts[1] < 20000);
+    }
+
+    /** Objects and arrays, fields and elements. */
+    private static void count(Object one, IdentityHashMap<Object, Object> seen, int[] counts) throws IllegalAccessException {
+        if (one == null || seen.put(one, one) != null) {
+            return;
+        }
+        counts[0]++;
+        if (one.getClass().isArray()) {
+            counts[1] += Array.getLength(one);
+            for (int i = 0; i < Array.getLength(one) && !one.getClass().getComponentType().isPrimitive(); i++) {
+                count(Array.get(one, i), seen, counts);
+            }
+            return;
+        }
+        for (Field field : one.getClass().getDeclaredFields()) {
+            if (!Modifier.isStatic(field.getModifiers())) {
+                counts[1]++;
+                field.setAccessible(true);
+                if (!field.getType().isPrimitive()) {
+                    count(field.get(one), seen, counts);
+                }
+            }
+        }
+    }
+
+    /** Nothing is made in a call: new stands in fields, and behind the elements of rows that a constructor fills. */
+    private static void madeAheadOfCalls() throws IOException {
+        for (String line : code().split("\n")) {
+            boolean made = line.matches(".*\\bnew\\b.*");
+            boolean ahead = line.matches(" +private final \\S+ \\w+ = new .*;| +\\w+\\[\\w\\] = new \\w+\\(\\);");
+            Check.due("made ahead of calls:" + line, true, !made || ahead);
+        }
+    }
+
+    private static String text() throws IOException {
+        return Files.readString(Path.of("src/main/java/ClayPrints.java"), StandardCharsets.ISO_8859_1);
+    }
+
+    /** Without comments, and with no words in its texts. */
+    private static String code() throws IOException {
+        return text().replaceAll("(?s)/\\*.*?\\*/", "").replaceAll("//[^\n]*", "").replaceAll("\"[^\"\n]*\"", "\"\"");
+    }
+
     private static void words() throws IOException {
-        String text = Files.readString(Path.of("src/main/java/ClayPrints.java"), StandardCharsets.ISO_8859_1);
-        String code = text.replaceAll("(?s)/\\*.*?\\*/", "").replaceAll("//[^\n]*", "").replaceAll("\"[^\"\n]*\"", "\"\"");
+        String text = text();
+        String code = code();
         for (String never : NEVER) {
             String pattern = Character.isLetter(never.charAt(0)) ? "\\b" + never + (never.matches("\\w+") ? "\\b" : "") : never;
             Matcher matcher = Pattern.compile(pattern).matcher(code);
